@@ -332,7 +332,8 @@ public final class CacheYard {
 
     /** All accesses, and what a cache of one set would have made of them. */
     private static final class Row {
-        private static final int NEVER = Integer.MAX_VALUE;
+        // Above the number of every access, so that a block without a next use is needed the latest of all.
+        private static final int NEVER = MOST_ACCESSES;
 
         private final int[] addresses = new int[MOST_ACCESSES];
         private int count;

@@ -11,7 +11,7 @@ public final class BestTest {
         for (int run = 0; run < 1500 && !checks.isFull(); run++) {
             compareShortRow(random);
         }
-        for (int run = 0; run < 40 && !checks.isFull(); run++) {
+        for (int run = 0; run < 10 && !checks.isFull(); run++) {
             compareLongRow(random);
         }
         checks.end("BestTest");

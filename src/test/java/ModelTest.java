@@ -22,7 +22,7 @@ public final class ModelTest {
     public static void main(String[] args) {
         Checks checks = new Checks();
         Random random = new Random(9);
-        for (int run = 0; run < 400 && !checks.isFull(); run++) {
+        for (int run = 0; run < 100 && !checks.isFull(); run++) {
             new ModelTest(checks, random).run();
         }
         checks.end("ModelTest");

@@ -77,6 +77,7 @@ public final class PromisesTest {
         for (int address = 0; address < 5; address++) {
             x.access(address, true);
         }
+        x.access(4, false);
         x.make(0, 1, 2, 1, 0);
         for (int what = 0; what < 6; what++) {
             checks.due("about(0, " + what + ") of a new one", x.about(0, what), 0);
@@ -85,7 +86,7 @@ public final class PromisesTest {
         checks.due("new one is clean", x.place(0, 0, 0, 1), 0);
         checks.due("the other stays", x.place(1, 0, 0, 0), 4);
         checks.due("the other's count", x.about(1, 3), 3);
-        checks.due("accesses stay", x.accesses(), 5);
+        checks.due("accesses stay", x.accesses(), 6);
         checks.due("nothing was dirty", x.flush(0), 0);
         smallerAfterLarger();
         treesOfANewOne();
