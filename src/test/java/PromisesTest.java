@@ -1,12 +1,6 @@
-import java.util.NoSuchElementException;
-
 /** Each promise by hand: ordinary inputs, the edges that the document names, and wrong inputs. */
 public final class PromisesTest {
-    private static final int[] WRONG_CACHES = {-1, 4, Integer.MIN_VALUE, Integer.MAX_VALUE};
-    private static final Class<IllegalArgumentException> ILLEGAL = IllegalArgumentException.class;
-    private static final Class<NoSuchElementException> NO_ELEMENT = NoSuchElementException.class;
-    private static final Class<IndexOutOfBoundsException> OUT_OF_BOUNDS = IndexOutOfBoundsException.class;
-    private static final Class<UnsupportedOperationException> UNSUPPORTED = UnsupportedOperationException.class;
+    private static final int[] WRONG_CACHES = Checks.outside(0, 3);
     private static final Checks checks = new Checks();
 
     public static void main(String[] args) {
@@ -41,9 +35,9 @@ public final class PromisesTest {
         checks.due("accesses()", x.accesses(), 0);
         for (int cache = 0; cache < 4; cache++) {
             int c = cache;
-            checks.dueThrow("about of none", NO_ELEMENT, () -> x.about(c, 0));
-            checks.dueThrow("place of none", NO_ELEMENT, () -> x.place(c, 0, 0, 0));
-            checks.dueThrow("flush of none", NO_ELEMENT, () -> x.flush(c));
+            checks.dueThrow("about of none", Checks.NO_ELEMENT, () -> x.about(c, 0));
+            checks.dueThrow("place of none", Checks.NO_ELEMENT, () -> x.place(c, 0, 0, 0));
+            checks.dueThrow("flush of none", Checks.NO_ELEMENT, () -> x.flush(c));
         }
         checks.due("curve of nothing", x.curve(64, 6), 0);
         checks.due("best of nothing", x.best(64, 6), 0);
@@ -113,7 +107,7 @@ public final class PromisesTest {
         x.make(0, 0, 2, 2, 0);
         x.access(1, false);
         x.make(0, 0, 4, 2, 0);
-        feed(x, 10, 11, 12, 13);
+        Checks.read(x, 10, 11, 12, 13);
         x.access(14, false);
         checks.due("victim of a new tree", x.place(0, 0, 0, 0), 14);
     }
@@ -142,7 +136,7 @@ public final class PromisesTest {
             refuseMake(x, 0, 0, 1, 0, wrong);
         }
         refuseMake(x, 1, 5, 1, 0, 0);
-        checks.dueThrow("a refused one is none", NO_ELEMENT, () -> x.about(1, 0));
+        checks.dueThrow("a refused one is none", Checks.NO_ELEMENT, () -> x.about(1, 0));
         checks.due("the old one stays", x.place(0, 0, 0, 0), 5);
         checks.due("its dirt stays", x.place(0, 0, 0, 1), 1);
         checks.due("its places stay", x.place(0, 0, 1, 0), -1);
@@ -151,7 +145,7 @@ public final class PromisesTest {
 
     private static void refuseMake(CacheYard x, int cache, int setBits, int places, int kind, int bits) {
         String call = "make(" + cache + ", " + setBits + ", " + places + ", " + kind + ", " + bits + ")";
-        checks.dueThrow(call, ILLEGAL, () -> x.make(cache, setBits, places, kind, bits));
+        checks.dueThrow(call, Checks.ILLEGAL, () -> x.make(cache, setBits, places, kind, bits));
     }
 
     private static void promise3Bits() {
@@ -182,34 +176,34 @@ public final class PromisesTest {
     private static void promise3LeastRecent() {
         CacheYard x = new CacheYard();
         x.make(0, 0, 3, 0, 0);
-        feed(x, 10, 11, 12);
+        Checks.read(x, 10, 11, 12);
         checks.due("hit", x.access(10, false), 1);
         checks.due("miss", x.access(13, false), 0);
-        dueSet(x, 0, 0, 10, 13, 12);
+        checks.dueSet(x, 0, 0, 10, 13, 12);
         checks.due("miss", x.access(14, false), 0);
-        dueSet(x, 0, 0, 10, 13, 14);
+        checks.dueSet(x, 0, 0, 10, 13, 14);
         checks.due("miss", x.access(15, false), 0);
-        dueSet(x, 0, 0, 15, 13, 14);
+        checks.dueSet(x, 0, 0, 15, 13, 14);
     }
 
     private static void promise3FirstCome() {
         CacheYard x = new CacheYard();
         x.make(0, 0, 3, 1, 0);
-        feed(x, 10, 11, 12);
+        Checks.read(x, 10, 11, 12);
         checks.due("hit", x.access(10, true), 1);
         checks.due("miss", x.access(13, false), 0);
-        dueSet(x, 0, 0, 13, 11, 12);
+        checks.dueSet(x, 0, 0, 13, 11, 12);
         checks.due("hit", x.access(11, false), 1);
         checks.due("miss", x.access(10, false), 0);
-        dueSet(x, 0, 0, 13, 10, 12);
+        checks.dueSet(x, 0, 0, 13, 10, 12);
         checks.due("written back", x.about(0, 3), 1);
     }
 
     private static void promise3TreeOfEight() {
         CacheYard x = new CacheYard();
         x.make(3, 0, 8, 2, 0);
-        feed(x, 100, 101, 102, 103, 104, 105, 106, 107);
-        dueSet(x, 3, 0, 100, 101, 102, 103, 104, 105, 106, 107);
+        Checks.read(x, 100, 101, 102, 103, 104, 105, 106, 107);
+        checks.dueSet(x, 3, 0, 100, 101, 102, 103, 104, 105, 106, 107);
         x.access(108, false);
         checks.due("all point left", x.place(3, 0, 0, 0), 108);
         x.access(109, false);
@@ -222,22 +216,22 @@ public final class PromisesTest {
         x.access(112, false);
         checks.due("the half without the hit", x.place(3, 0, 5, 0), 112);
         x.access(113, false);
-        dueSet(x, 3, 0, 108, 101, 110, 113, 109, 112, 111, 107);
+        checks.dueSet(x, 3, 0, 108, 101, 110, 113, 109, 112, 111, 107);
     }
 
     private static void promise3TreeOfOneAndFour() {
         CacheYard x = new CacheYard();
         x.make(0, 0, 1, 2, 0);
         x.make(1, 1, 4, 2, 0);
-        feed(x, 0, 2, 4, 6, 1);
-        dueSet(x, 0, 0, 1);
+        Checks.read(x, 0, 2, 4, 6, 1);
+        checks.dueSet(x, 0, 0, 1);
         checks.due("victims of the tree without nodes", x.about(0, 2), 4);
         checks.due("hit", x.access(0, false), 2);
         x.access(8, false);
-        dueSet(x, 1, 0, 0, 2, 8, 6);
-        dueSet(x, 1, 1, 1, -1, -1, -1);
+        checks.dueSet(x, 1, 0, 0, 2, 8, 6);
+        checks.dueSet(x, 1, 1, 1, -1, -1, -1);
         x.access(10, false);
-        dueSet(x, 1, 0, 0, 10, 8, 6);
+        checks.dueSet(x, 1, 0, 0, 10, 8, 6);
     }
 
     private static void promise3Dirty() {
@@ -266,7 +260,7 @@ public final class PromisesTest {
         x.access(0, false);
         checks.due("the last address", x.access(4095, false), 0);
         for (int wrong : new int[] {-1, 4096, Integer.MIN_VALUE, Integer.MAX_VALUE}) {
-            checks.dueThrow("access(" + wrong + ")", ILLEGAL, () -> x.access(wrong, true));
+            checks.dueThrow("access(" + wrong + ")", Checks.ILLEGAL, () -> x.access(wrong, true));
         }
         checks.due("nothing kept", x.accesses(), 2);
         checks.due("nothing seen", x.about(0, 1), 2);
@@ -274,8 +268,8 @@ public final class PromisesTest {
             checks.due("access " + i, x.access(4095, false), 1);
         }
         checks.due("all 400", x.accesses(), 400);
-        checks.dueThrow("one more", UNSUPPORTED, () -> x.access(4095, true));
-        checks.dueThrow("one more, of no address", ILLEGAL, () -> x.access(4096, true));
+        checks.dueThrow("one more", Checks.UNSUPPORTED, () -> x.access(4095, true));
+        checks.dueThrow("one more, of no address", Checks.ILLEGAL, () -> x.access(4096, true));
         checks.due("still 400", x.accesses(), 400);
         checks.due("not a hit", x.about(0, 0), 398);
         checks.due("not dirty", x.place(0, 0, 0, 1), 0);
@@ -292,8 +286,8 @@ public final class PromisesTest {
         x.access(3, true);
         x.access(5, true);
         checks.due("flush", x.flush(0), 3);
-        dueSet(x, 0, 0, -1, -1);
-        dueSet(x, 0, 1, -1, -1);
+        checks.dueSet(x, 0, 0, -1, -1);
+        checks.dueSet(x, 0, 1, -1, -1);
         checks.due("no dirt", x.place(0, 1, 0, 1), 0);
         checks.due("the other stays", x.about(1, 4), 3);
         checks.due("again", x.flush(0), 0);
@@ -302,7 +296,7 @@ public final class PromisesTest {
             checks.due("about(0, " + what + ") after flush", x.about(0, what), told[what]);
         }
         checks.due("miss again", x.access(5, false), 2);
-        dueSet(x, 0, 1, 5, -1);
+        checks.dueSet(x, 0, 1, 5, -1);
         checks.due("clean again", x.flush(0), 0);
     }
 
@@ -311,26 +305,26 @@ public final class PromisesTest {
         // set anew: that the trees point to the left shows in no answer, only the order of victims does.
         CacheYard x = new CacheYard();
         x.make(0, 0, 8, 2, 0);
-        feed(x, 0, 1, 2);
+        Checks.read(x, 0, 1, 2);
         x.flush(0);
-        feed(x, 10, 11, 12, 13, 14, 15, 16, 17);
+        Checks.read(x, 10, 11, 12, 13, 14, 15, 16, 17);
         x.access(18, false);
         checks.due("the first place", x.place(0, 0, 0, 0), 18);
         CacheYard y = new CacheYard();
         y.make(0, 0, 2, 1, 0);
-        feed(y, 1, 2, 3);
+        Checks.read(y, 1, 2, 3);
         y.flush(0);
-        feed(y, 4, 5, 6);
-        dueSet(y, 0, 0, 6, 5);
+        Checks.read(y, 4, 5, 6);
+        checks.dueSet(y, 0, 0, 6, 5);
     }
 
     private static void promise4FlushRefuses() {
         CacheYard x = new CacheYard();
         x.make(1, 0, 1, 0, 0);
         x.access(1, true);
-        checks.dueThrow("flush(0)", NO_ELEMENT, () -> x.flush(0));
+        checks.dueThrow("flush(0)", Checks.NO_ELEMENT, () -> x.flush(0));
         for (int wrong : WRONG_CACHES) {
-            checks.dueThrow("flush(" + wrong + ")", NO_ELEMENT, () -> x.flush(wrong));
+            checks.dueThrow("flush(" + wrong + ")", Checks.NO_ELEMENT, () -> x.flush(wrong));
         }
         checks.due("the other stays", x.about(1, 5), 1);
     }
@@ -345,19 +339,19 @@ public final class PromisesTest {
         checks.due("empty is not dirty", x.place(2, 1, 2, 1), 0);
         checks.due("another set", x.place(2, 0, 0, 0), CacheYard.NONE);
         for (int wrong : WRONG_CACHES) {
-            checks.dueThrow("place of no cache", NO_ELEMENT, () -> x.place(wrong, -1, -1, -1));
+            checks.dueThrow("place of no cache", Checks.NO_ELEMENT, () -> x.place(wrong, -1, -1, -1));
         }
-        checks.dueThrow("place of one not made", NO_ELEMENT, () -> x.place(0, 9, 9, 9));
+        checks.dueThrow("place of one not made", Checks.NO_ELEMENT, () -> x.place(0, 9, 9, 9));
         for (int wrong : new int[] {-1, 2, 16, Integer.MIN_VALUE, Integer.MAX_VALUE}) {
-            checks.dueThrow("no such set", OUT_OF_BOUNDS, () -> x.place(2, wrong, 0, 0));
-            checks.dueThrow("no such set, nor what", OUT_OF_BOUNDS, () -> x.place(2, wrong, 0, 2));
+            checks.dueThrow("no such set", Checks.OUT_OF_BOUNDS, () -> x.place(2, wrong, 0, 0));
+            checks.dueThrow("no such set, nor what", Checks.OUT_OF_BOUNDS, () -> x.place(2, wrong, 0, 2));
         }
         for (int wrong : new int[] {-1, 3, 8, Integer.MIN_VALUE, Integer.MAX_VALUE}) {
-            checks.dueThrow("no such place", OUT_OF_BOUNDS, () -> x.place(2, 0, wrong, 1));
-            checks.dueThrow("no such place, nor what", OUT_OF_BOUNDS, () -> x.place(2, 0, wrong, -1));
+            checks.dueThrow("no such place", Checks.OUT_OF_BOUNDS, () -> x.place(2, 0, wrong, 1));
+            checks.dueThrow("no such place, nor what", Checks.OUT_OF_BOUNDS, () -> x.place(2, 0, wrong, -1));
         }
         for (int wrong : new int[] {-1, 2, Integer.MIN_VALUE, Integer.MAX_VALUE}) {
-            checks.dueThrow("no such what", ILLEGAL, () -> x.place(2, 1, 2, wrong));
+            checks.dueThrow("no such what", Checks.ILLEGAL, () -> x.place(2, 1, 2, wrong));
         }
     }
 
@@ -379,11 +373,11 @@ public final class PromisesTest {
             checks.due("about(0, " + what + ") after flush", x.about(0, what), flushed[what]);
         }
         for (int wrong : new int[] {-1, 6, Integer.MIN_VALUE, Integer.MAX_VALUE}) {
-            checks.dueThrow("about(0, " + wrong + ")", ILLEGAL, () -> x.about(0, wrong));
-            checks.dueThrow("about(1, " + wrong + ")", NO_ELEMENT, () -> x.about(1, wrong));
+            checks.dueThrow("about(0, " + wrong + ")", Checks.ILLEGAL, () -> x.about(0, wrong));
+            checks.dueThrow("about(1, " + wrong + ")", Checks.NO_ELEMENT, () -> x.about(1, wrong));
         }
         for (int wrong : WRONG_CACHES) {
-            checks.dueThrow("about(" + wrong + ", 0)", NO_ELEMENT, () -> x.about(wrong, 0));
+            checks.dueThrow("about(" + wrong + ", 0)", Checks.NO_ELEMENT, () -> x.about(wrong, 0));
         }
     }
 
@@ -401,7 +395,7 @@ public final class PromisesTest {
 
     private static void promise8Curve() {
         CacheYard x = new CacheYard();
-        feed(x, 1, 2, 3, 4, 1, 2, 5, 1, 2, 3, 4, 5);
+        Checks.read(x, 1, 2, 3, 4, 1, 2, 5, 1, 2, 3, 4, 5);
         int[] due = {0, 0, 2, 4, 7, 7};
         for (int i = 0; i < due.length; i++) {
             checks.due("curve(" + (i + 1) + ", 0)", x.curve(i + 1, 0), due[i]);
@@ -429,7 +423,7 @@ public final class PromisesTest {
 
     private static void promise9Best() {
         CacheYard x = new CacheYard();
-        feed(x, 1, 2, 3, 4, 1, 2, 5, 1, 2, 3, 4, 5);
+        Checks.read(x, 1, 2, 3, 4, 1, 2, 5, 1, 2, 3, 4, 5);
         int[] due = {0, 3, 5, 6, 7, 7};
         for (int i = 0; i < due.length; i++) {
             checks.due("best(" + (i + 1) + ", 0)", x.best(i + 1, 0), due[i]);
@@ -439,7 +433,7 @@ public final class PromisesTest {
         checks.due("best(1, 6)", x.best(1, 6), 11);
         // The block that is accessed must come: it can't be its own victim.
         CacheYard y = new CacheYard();
-        feed(y, 1, 2, 1, 3, 1);
+        Checks.read(y, 1, 2, 1, 3, 1);
         checks.due("best(1, 0)", y.best(1, 0), 0);
         checks.due("best(2, 0)", y.best(2, 0), 2);
         CacheYard z = new CacheYard();
@@ -466,29 +460,16 @@ public final class PromisesTest {
 
     private static void promises8And9Refuse() {
         CacheYard x = new CacheYard();
-        feed(x, 1, 1, 1);
+        Checks.read(x, 1, 1, 1);
         for (int wrong : new int[] {0, -1, 65, Integer.MIN_VALUE, Integer.MAX_VALUE}) {
-            checks.dueThrow("curve(" + wrong + ", 0)", ILLEGAL, () -> x.curve(wrong, 0));
-            checks.dueThrow("best(" + wrong + ", 0)", ILLEGAL, () -> x.best(wrong, 0));
+            checks.dueThrow("curve(" + wrong + ", 0)", Checks.ILLEGAL, () -> x.curve(wrong, 0));
+            checks.dueThrow("best(" + wrong + ", 0)", Checks.ILLEGAL, () -> x.best(wrong, 0));
         }
         for (int wrong : new int[] {-1, 7, 32, Integer.MIN_VALUE, Integer.MAX_VALUE}) {
-            checks.dueThrow("curve(1, " + wrong + ")", ILLEGAL, () -> x.curve(1, wrong));
-            checks.dueThrow("best(1, " + wrong + ")", ILLEGAL, () -> x.best(1, wrong));
+            checks.dueThrow("curve(1, " + wrong + ")", Checks.ILLEGAL, () -> x.curve(1, wrong));
+            checks.dueThrow("best(1, " + wrong + ")", Checks.ILLEGAL, () -> x.best(1, wrong));
         }
         checks.due("curve still", x.curve(1, 0), 2);
         checks.due("best still", x.best(1, 0), 2);
-    }
-
-    private static void feed(CacheYard x, int... addresses) {
-        for (int address : addresses) {
-            x.access(address, false);
-        }
-    }
-
-    private static void dueSet(CacheYard x, int cache, int set, int... blocks) {
-        for (int place = 0; place < blocks.length; place++) {
-            String call = "place(" + cache + ", " + set + ", " + place + ", 0)";
-            checks.due(call, x.place(cache, set, place, 0), blocks[place]);
-        }
     }
 }
