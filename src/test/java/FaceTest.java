@@ -42,8 +42,37 @@ public final class FaceTest {
             int modifiers = inside.getModifiers();
             boolean isHidden = !Modifier.isPublic(modifiers) && !Modifier.isProtected(modifiers);
             checks.due(inside + " is hidden and static", isHidden && Modifier.isStatic(modifiers) ? 1 : 0, 1);
+            dueKeptRules(checks, inside);
         }
+        dueKeptRules(checks, CacheYard.class);
         checks.end("FaceTest");
+    }
+
+    /** Of LANGUAGE.md what members show: rule 1 (names), 5 (static fields) and 11 (parameters, fields). */
+    private static void dueKeptRules(Checks checks, Class<?> type) {
+        int fields = 0;
+        for (Field field : type.getDeclaredFields()) {
+            if (Modifier.isStatic(field.getModifiers())) {
+                checks.due(field + " is final", Modifier.isFinal(field.getModifiers()) ? 1 : 0, 1);
+            } else {
+                fields++;
+            }
+        }
+        checks.due(type + " has at most twenty fields", fields <= 20 ? 1 : 0, 1);
+        for (Method method : type.getDeclaredMethods()) {
+            boolean isOfTheFace = type == CacheYard.class && Modifier.isPublic(method.getModifiers());
+            checks.due(method + " has a name of its own", isOfTheFace || !isNameOfTheFace(method) ? 1 : 0, 1);
+            checks.due(method + " has at most seven parameters", method.getParameterCount() <= 7 ? 1 : 0, 1);
+        }
+    }
+
+    private static boolean isNameOfTheFace(Method method) {
+        for (String shown : FACE) {
+            if (shown.contains("." + method.getName() + "(")) {
+                return true;
+            }
+        }
+        return false;
     }
 
     private static void addIfSeen(TreeSet<String> seen, Member member, String text) {
